@@ -322,11 +322,11 @@ public final class CoughLamps {
         int coughs;
         int heard;
         int blamed;
-        // Only of the tick that passes; a new tick forgets them.
+        // Only of the tick that passes: no copy needs them, since what comes next forgets them first.
         boolean anew;
         boolean coughed;
 
-        /** Sets every field, since an undone lamp may have left its own here. */
+        /** Sets all that is kept, since a lamp that is no more may have left its own here. */
         void place(int newStep, int newShine) {
             step = newStep;
             shine = newShine;
@@ -339,7 +339,6 @@ public final class CoughLamps {
             coughs = 0;
             heard = 0;
             blamed = 0;
-            forgetTick();
         }
 
         void copyFrom(Lamp other) {
@@ -354,7 +353,6 @@ public final class CoughLamps {
             coughs = other.coughs;
             heard = other.heard;
             blamed = other.blamed;
-            forgetTick();
         }
 
         void forgetTick() {
@@ -411,7 +409,6 @@ public final class CoughLamps {
                 left = dim;
             } else {
                 does = ASLEEP;
-                left = 0;
             }
         }
 
@@ -478,7 +475,7 @@ public final class CoughLamps {
         int dark;
         int walked;
 
-        /** Sets every field, since an undone walker may have left its own here. */
+        /** Sets all that is kept, since a walker who is no more may have left its own here. */
         void place(int newStep, int newPace) {
             goals = 0;
             step = newStep;
@@ -1015,7 +1012,6 @@ public final class CoughLamps {
 
         void clear() {
             length = 0;
-            at = 0;
         }
 
         void rewind() {

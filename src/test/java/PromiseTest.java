@@ -26,6 +26,7 @@ public final class PromiseTest {
         promise9DueLampsHaveCoughedAheadOfTheFirst();
         promise9SeeingLampsCough();
         promise9LightAndBlame();
+        promise9FullStreet();
         promise10OfLamp();
         promise11OfWalker();
         promise12OfHouse();
@@ -256,6 +257,23 @@ public final class PromiseTest {
         walkerDue("first goal done", x, 0, 4, 5);
         Check.due("one goal more", x.goal(0, 7, 0), 6);
         goalsAreBehindThoseThatAreLeft();
+        goalsAreGoneToInTheirOrder();
+    }
+
+    private static void goalsAreGoneToInTheirOrder() {
+        CoughLamps x = new CoughLamps();
+        x.walker(0, 4);
+        for (int i = 1; i <= 6; i++) {
+            Check.due("goal " + i, x.goal(0, i, i % 2), i);
+        }
+        int[] steps = {1, 1, 2, 3, 3, 4, 5, 5, 6};
+        int[] goes = {1, 2, 3, 3, 4, 5, 5, 6, NONE};
+        for (int i = 0; i < steps.length; i++) {
+            x.ticks(1);
+            walkerDue("tick " + i, x, 0, 0, steps[i]);
+            walkerDue("tick " + i, x, 0, 3, goes[i]);
+        }
+        walkerDue("all done", x, 0, 2, 1);
     }
 
     private static void goalsAreBehindThoseThatAreLeft() {
@@ -427,7 +445,15 @@ public final class PromiseTest {
         x.cough(0);
         x.ticks(2);
         lampDue("no dim light", x, 1, 2, CoughLamps.ASLEEP);
+        lampDue("no dim light", x, 1, 4, 0);
         lampDue("no dim light", x, 1, 7, 10);
+        x.set(CoughLamps.DIM, 1);
+        x.cough(0);
+        x.ticks(2);
+        lampDue("one dim tick", x, 1, 2, CoughLamps.DIM_LIT);
+        x.ticks(1);
+        lampDue("one dim tick", x, 1, 2, CoughLamps.ASLEEP);
+        lampDue("one dim tick", x, 1, 7, 15);
     }
 
     private static void promise9CoughsInTurn() {
@@ -553,6 +579,41 @@ public final class PromiseTest {
         y.walker(0, 1);
         y.ticks(3);
         countDue("dark without a lamp", y, 8, 3);
+        y.lamp(99, 1);
+        y.ticks(2);
+        lampDue("the one that there is", y, 0, 10, 2);
+    }
+
+    /** All that can be in a street, all of it counted and nothing beyond it. */
+    private static void promise9FullStreet() {
+        CoughLamps x = new CoughLamps();
+        for (int i = 0; i < 16; i++) {
+            x.lamp(6 * i, 3);
+        }
+        for (int i = 0; i < 8; i++) {
+            x.house(12 * i + 1);
+            x.walker(12 * i, 1);
+            x.goal(i, 12 * i, 5);
+        }
+        Check.due("hearers(15)", x.hearers(15), 1 << 14 | 1 << 13);
+        Check.due("brings(1, 0)", x.brings(1, 0), 0);
+        Check.due("brings(1, 1)", x.brings(1, 1), 64);
+        Check.due("brings(1, 2)", x.brings(1, 2), 8);
+        Check.due("brings(1, 3)", x.brings(1, 3), 8);
+        Check.due("bestReach(1)", x.bestReach(1), 1);
+        Check.due("needless()", x.needless(), 0xAAAA);
+        Check.due("homeIn(7)", x.homeIn(7), 6);
+        x.save(1);
+        x.ticks(1);
+        countDue("lit", x, 5, 16);
+        Check.due("lightAt(93)", x.lightAt(93), 1 << 15);
+        x.ticks(3);
+        Check.due("the last house", x.ofHouse(7, 2), 4);
+        x.restore(1);
+        countDue("restored", x, 5, 0);
+        x.undo();
+        countDue("undone", x, 9, 32);
+        Check.due("cough(15)", x.cough(15), 2);
     }
 
     // ---- what there is
@@ -823,6 +884,48 @@ public final class PromiseTest {
         z.walker(2, 1);
         z.walker(61, 1);
         Check.due("beyond the farthest", z.bestReach(3), 1);
+        bestReachOfSeveral();
+    }
+
+    private static void bestReachOfSeveral() {
+        CoughLamps x = lampsAt(0, 10, 30);
+        x.mend(1, 1);
+        x.walker(2, 1);
+        Check.due("a farther one would take more light", x.bestReach(9), 1);
+        x.mend(1, 2);
+        x.mend(2, 2);
+        Check.due("all of them take as much light", x.bestReach(9), 1);
+        CoughLamps y = lampsAt(0, 8, 20);
+        y.mend(1, 1);
+        y.mend(2, 1);
+        y.walker(2, 1);
+        y.walker(9, 1);
+        Check.due("the fewest dark ticks, then the least light", y.bestReach(3), 8);
+        y.walker(21, 1);
+        Check.due("the least that reaches both in time", y.bestReach(1), 20);
+        Check.due("the least light with as few dark ticks", y.bestReach(200), bestByTrying(y, 200));
+        fartherWithLessLight();
+    }
+
+    /**
+     * Reach 6 lets lamp 4 light the walker at 66. Reach 16 wakes lamp 1 ahead of the walker who comes there: it
+     * does not cough then, and lamp 2 stays asleep.
+     */
+    private static void fartherWithLessLight() {
+        CoughLamps x = new CoughLamps();
+        int[] steps = {4, 20, 25, 60, 66};
+        for (int step : steps) {
+            x.lamp(step, 1);
+        }
+        x.set(CoughLamps.EYES, 0);
+        x.set(CoughLamps.CHAIN, 0);
+        x.mend(4, 1);
+        x.walker(0, 4);
+        x.goal(0, 20, 20);
+        x.walker(60, 1);
+        x.walker(66, 1);
+        Check.due("farther with less light", x.bestReach(12), 16);
+        Check.due("tried", x.bestReach(12), bestByTrying(x, 12));
     }
 
     private static int bestByTrying(CoughLamps x, int ticks) {
@@ -854,19 +957,24 @@ public final class PromiseTest {
         y.walker(0, 1);
         y.goal(0, 99, 0);
         y.ticks(5);
-        Check.due("the last dark tick after 100 ticks does not count", y.needless(), neededByTrying(y));
-        CoughLamps z = lampsAt(30);
-        z.walker(0, 1);
-        z.goal(0, 0, 20);
-        z.goal(0, 0, 20);
-        z.goal(0, 0, 20);
-        z.goal(0, 0, 9);
-        z.goal(0, 27, 0);
-        // Of 74 ticks at step 0 on, the lamp lights step 27 in tick 100 and no earlier one.
-        Check.due("ahead of the end", z.needless(), neededByTrying(z));
+        Check.due("tried", y.needless(), needlessByTrying(y));
+        Check.due("seen in tick 100", comesInTick(100).needless(), 0);
+        Check.due("seen in tick 101", comesInTick(101).needless(), 1);
     }
 
-    private static int neededByTrying(CoughLamps x) {
+    /** A street with a walker whom its lamp does not see ahead of the given tick, 100 or 101. */
+    private static CoughLamps comesInTick(int tick) {
+        CoughLamps x = lampsAt(30);
+        x.walker(0, 1);
+        x.goal(0, 0, 20);
+        x.goal(0, 0, 20);
+        x.goal(0, 0, 20);
+        x.goal(0, 0, 9 + tick - 100);
+        x.goal(0, 28, 0);
+        return x;
+    }
+
+    private static int needlessByTrying(CoughLamps x) {
         int asItIs = x.brings(100, 0);
         int set = 0;
         for (int lamp = 0; lamp < x.count(1); lamp++) {
@@ -953,10 +1061,12 @@ public final class PromiseTest {
         Check.due("80 signs and a fault", faultOf(full.substring(1) + "t"), 0);
         Check.due("80 signs and too short", faultOf(full.substring(0, 75) + "w1/1>"), 80);
         CoughLamps x = new CoughLamps();
-        putText(x, "t1x");
-        Check.due("fault()", x.fault(), 2);
-        Check.due("fault() again", x.fault(), 2);
-        countDue("the pad stays", x, 17, 3);
+        putText(x, "t1");
+        Check.due("fault()", x.fault(), NONE);
+        putText(x, ";x");
+        Check.due("fault()", x.fault(), 3);
+        Check.due("fault() again", x.fault(), 3);
+        countDue("the pad stays", x, 17, 4);
         countDue("no change", x, 18, 0);
     }
 
@@ -1060,34 +1170,110 @@ public final class PromiseTest {
         x.set(2, 1);
         x.undo();
         same("goal, mend and set undone", before, look(x));
+        CoughLamps y = lampsAt(10, 20);
+        y.set(CoughLamps.CHAIN, 6);
+        y.cough(0);
+        lampDue("rank", y, 1, 6, 1);
+        y.ticks(4);
+        lampDue("rank", y, 1, 6, 3);
+        y.undo();
+        lampDue("rank", y, 1, 6, 1);
+        eachChangeIsUndone();
         newOnesAreAsNew();
     }
 
-    /** What comes behind an undo has nothing of what was undone. */
+    private static CoughLamps busyStreet() {
+        CoughLamps x = lampsAt(10, 20, 34);
+        x.house(21);
+        x.walker(7, 2);
+        x.goal(0, 20, 3);
+        x.goal(0, 25, 2);
+        x.walker(90, 1);
+        x.ticks(5);
+        x.save(0);
+        return x;
+    }
+
+    private static void eachChangeIsUndone() {
+        for (int change = 0; change < 10; change++) {
+            CoughLamps x = busyStreet();
+            x.undo();
+            x.ticks(3);
+            putText(x, "w0/1;t9;m0=2");
+            int[] before = look(x);
+            int answer = change(x, change);
+            Check.holds("change " + change + " is done", answer >= 0);
+            boolean different = false;
+            int[] after = look(x);
+            for (int i = 0; i < before.length; i++) {
+                different |= after.length != before.length || before[i] != after[i];
+            }
+            Check.holds("change " + change + " changes something", different);
+            Check.due("undo of change " + change, x.undo(), 5);
+            same("undo of change " + change, before, look(x));
+        }
+    }
+
+    private static int change(CoughLamps x, int change) {
+        switch (change) {
+            case 0: return x.set(2, 9);
+            case 1: return x.lamp(50, 5);
+            case 2: return x.house(50);
+            case 3: return x.walker(50, 1);
+            case 4: return x.goal(1, 50, 1);
+            case 5: return x.mend(1, 2);
+            case 6: return x.cough(0);
+            case 7: return x.ticks(20);
+            case 8: return x.carryOut();
+            default: return x.restore(0);
+        }
+    }
+
+    /** What comes in the place of what is no more has nothing of it. */
     private static void newOnesAreAsNew() {
         CoughLamps x = lampsAt(10);
+        x.save(0);
         x.house(14);
         x.lamp(14, 5);
+        x.walker(0, 4);
+        x.goal(0, 14, 5);
+        x.goal(0, 14, 0);
         x.walker(14, 1);
-        x.goal(0, 40, 5);
+        x.goal(1, 14, 9);
+        x.goal(1, 14, 9);
         x.mend(1, 1);
-        x.ticks(20);
-        for (int i = 0; i < 6; i++) {
-            x.undo();
-        }
+        x.ticks(5);
+        x.cough(0);
+        x.restore(0);
         x.house(15);
         x.lamp(15, 6);
         x.walker(0, 2);
+        x.walker(0, 2);
+        newOnesDue("rested, lit and waited", x);
+        x.mend(1, 1);
+        x.goal(0, 3, 0);
+        x.ticks(30);
+        x.restore(0);
+        x.house(15);
+        x.lamp(15, 6);
+        x.walker(0, 2);
+        x.walker(0, 2);
+        newOnesDue("was home", x);
+    }
+
+    private static void newOnesDue(String when, CoughLamps x) {
         int[] lamp = {15, 6, 0, 0, 0, NONE, NONE, 0, 0, 0, 0};
         for (int what = 0; what < lamp.length; what++) {
-            lampDue("as new", x, 1, what, lamp[what]);
+            lampDue(when, x, 1, what, lamp[what]);
         }
         int[] walker = {0, 2, 0, NONE, 0, NONE, 0, 0, 0};
-        for (int what = 0; what < walker.length; what++) {
-            walkerDue("as new", x, 0, what, walker[what]);
+        for (int i = 0; i < 2; i++) {
+            for (int what = 0; what < walker.length; what++) {
+                walkerDue(when, x, i, what, walker[what]);
+            }
         }
-        Check.due("as new", x.ofHouse(0, 2), 0);
-        Check.due("as new", x.ofHouse(0, 0), 15);
+        Check.due(when, x.ofHouse(0, 2), 0);
+        Check.due(when, x.ofHouse(0, 0), 15);
     }
 
     private static void undoLeavesPadAndSlots() {
