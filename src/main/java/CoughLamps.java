@@ -14,13 +14,13 @@ public final class CoughLamps {
     private static final int MOST_LAMPS = 16, MOST_HOUSES = 8, MOST_WALKERS = 8, MOST_GOALS = 6;
     private static final int MOST_SHINE = 30, MOST_PACE = 4, MOST_PAUSE = 20, MOST_TICKS = 200;
     private static final int HOME_TICKS = 500, NEEDLESS_TICKS = 100;
-    private static final int LEAST_REACH = 1, MOST_REACH = 60;
     private static final int SETTINGS = 6, SLOTS = 2, HISTORY = 6, PAD_SIGNS = 80, PUT_SIGNS = 8;
+    private static final int COUNT_OF_SETTING = 11;
     private static final int DARK_TICKS = 0, LIGHT_UNITS = 1, DISTURBED_TICKS = 2, COUGHS = 3;
 
     private static final int[] FIRST_VALUES = {3, 14, 8, 6, 2, 2};
-    private static final int[] LEAST_VALUES = {0, LEAST_REACH, 1, 0, 1, 0};
-    private static final int[] MOST_VALUES = {20, MOST_REACH, 50, 50, 10, 6};
+    private static final int[] LEAST_VALUES = {0, 1, 1, 0, 1, 0};
+    private static final int[] MOST_VALUES = {20, 60, 50, 50, 10, 6};
 
     private final Street now = new Street();
     private final Street trial = new Street();
@@ -100,8 +100,8 @@ public final class CoughLamps {
     }
 
     public int count(int what) {
-        if (what >= 11 && what < 11 + SETTINGS) {
-            return now.settings[what - 11];
+        if (within(what, COUNT_OF_SETTING, COUNT_OF_SETTING + SETTINGS - 1)) {
+            return now.settings[what - COUNT_OF_SETTING];
         }
         switch (what) {
             case 0: return now.tick;
@@ -130,13 +130,13 @@ public final class CoughLamps {
         // No lamp changes a walker's way, so this walker alone is tried.
         Walker tried = trial.walkers[walker];
         tried.copyFrom(now.walkers[walker]);
-        for (int ticks = 0; ticks < HOME_TICKS; ticks++) {
+        for (int ticks = 0; ticks <= HOME_TICKS; ticks++) {
             if (tried.home) {
                 return ticks;
             }
             tried.go();
         }
-        return tried.home ? HOME_TICKS : NONE;
+        return NONE;
     }
 
     public int brings(int ticks, int what) {
@@ -154,10 +154,11 @@ public final class CoughLamps {
         }
         int best = NONE;
         int fewestDark = 0;
-        int fewestLight = 0;
-        for (int reach = LEAST_REACH; reach <= MOST_REACH; reach++) {
-            // A reach that brings no lamp nearer does as the reach below it, which is less.
-            if (reach > LEAST_REACH && !now.hasLampsApart(reach)) {
+        int leastLight = 0;
+        int least = LEAST_VALUES[REACH];
+        for (int reach = least; reach <= MOST_VALUES[REACH]; reach++) {
+            // If no two lamps are as far apart as this, the reach below does the same, and is less.
+            if (reach > least && !now.hasLampsApart(reach)) {
                 continue;
             }
             trial.become(now);
@@ -165,10 +166,10 @@ public final class CoughLamps {
             trial.letPass(ticks);
             int dark = broughtByTrial(DARK_TICKS);
             int light = broughtByTrial(LIGHT_UNITS);
-            if (best == NONE || dark < fewestDark || dark == fewestDark && light < fewestLight) {
+            if (best == NONE || dark < fewestDark || dark == fewestDark && light < leastLight) {
                 best = reach;
                 fewestDark = dark;
-                fewestLight = light;
+                leastLight = light;
             }
         }
         return best;
@@ -1001,7 +1002,7 @@ public final class CoughLamps {
         int length;
         int at;
         int numberCount;
-        char kind;
+        int kind;
 
         void append(char sign) {
             if (length < PAD_SIGNS) {
