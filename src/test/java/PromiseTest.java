@@ -1,13 +1,5 @@
 /** For each promise: ordinary calls, the edges that the document names, and wrong calls. */
-public final class PromiseTest {
-    private static final int NO_SUCH = -1;
-    private static final int BAD_VALUE = -2;
-    private static final int BAD_TEXT = -3;
-    private static final int TOO_MANY = -4;
-    private static final int NOT_POSSIBLE = -5;
-    private static final int NONE = -6;
-    private static final int[] WRONG = {-1, Integer.MIN_VALUE, Integer.MAX_VALUE};
-
+public final class PromiseTest extends Streets {
     public static void main(String[] args) {
         promise1NewObject();
         promise2Set();
@@ -46,57 +38,6 @@ public final class PromiseTest {
         promise25Save();
         promise26Restore();
         Check.finish();
-    }
-
-    // ---- helpers
-
-    private static void lampDue(String when, CoughLamps x, int lamp, int what, int want) {
-        Check.due(when + ": ofLamp(" + lamp + ", " + what + ")", x.ofLamp(lamp, what), want);
-    }
-
-    private static void walkerDue(String when, CoughLamps x, int walker, int what, int want) {
-        Check.due(when + ": ofWalker(" + walker + ", " + what + ")", x.ofWalker(walker, what), want);
-    }
-
-    private static void countDue(String when, CoughLamps x, int what, int want) {
-        Check.due(when + ": count(" + what + ")", x.count(what), want);
-    }
-
-    /** A street with lamps of shine 5 at these steps. */
-    private static CoughLamps lampsAt(int... steps) {
-        CoughLamps x = new CoughLamps();
-        for (int i = 0; i < steps.length; i++) {
-            Check.due("lamp(" + steps[i] + ", 5)", x.lamp(steps[i], 5), i);
-        }
-        return x;
-    }
-
-    private static int putText(CoughLamps x, String text) {
-        int answer = 0;
-        for (int from = 0; from < text.length(); from += 8) {
-            answer = x.put(pack(text.substring(from, Math.min(from + 8, text.length()))));
-        }
-        return answer;
-    }
-
-    private static long pack(String signs) {
-        long number = 0;
-        for (int i = 0; i < signs.length(); i++) {
-            number = number << 8 | signs.charAt(i);
-        }
-        return number;
-    }
-
-    private static int faultOf(String text) {
-        CoughLamps x = new CoughLamps();
-        putText(x, text);
-        return x.fault();
-    }
-
-    private static int carried(CoughLamps x, String text) {
-        x.wipe();
-        putText(x, text);
-        return x.carryOut();
     }
 
     // ---- setting up
@@ -573,8 +514,8 @@ public final class PromiseTest {
         walkerDue("lit at the end of the shine", x, 0, 6, 1);
         walkerDue("dark", x, 1, 6, 2);
         countDue("light", x, 7, 8);
-        Check.due("disturbed", x.ofHouse(0, 2), 1);
-        Check.due("too far to be disturbed", x.ofHouse(1, 2), 0);
+        houseDue("disturbed", x, 0, 2, 1);
+        houseDue("too far to be disturbed", x, 1, 2, 0);
         CoughLamps y = new CoughLamps();
         y.walker(0, 1);
         y.ticks(3);
@@ -608,7 +549,7 @@ public final class PromiseTest {
         countDue("lit", x, 5, 16);
         Check.due("lightAt(93)", x.lightAt(93), 1 << 15);
         x.ticks(3);
-        Check.due("the last house", x.ofHouse(7, 2), 4);
+        houseDue("the last house", x, 7, 2, 4);
         x.restore(1);
         countDue("restored", x, 5, 0);
         x.undo();
@@ -682,20 +623,20 @@ public final class PromiseTest {
             Check.due("wrong house", x.ofHouse(wrong, 0), NO_SUCH);
             Check.due("wrong what", x.ofHouse(0, wrong), BAD_VALUE);
         }
-        Check.due("step", x.ofHouse(1, 0), 46);
-        Check.due("asleep", x.ofHouse(0, 1), 0);
+        houseDue("step", x, 1, 0, 46);
+        houseDue("asleep", x, 0, 1, 0);
         x.set(CoughLamps.AWAKE, 3);
         x.set(CoughLamps.CHAIN, 0);
         x.cough(1);
-        Check.due("disturbed now", x.ofHouse(0, 1), 1);
-        Check.due("no tick so far", x.ofHouse(0, 2), 0);
-        Check.due("too far", x.ofHouse(1, 1), 0);
+        houseDue("disturbed now", x, 0, 1, 1);
+        houseDue("no tick so far", x, 0, 2, 0);
+        houseDue("too far", x, 1, 1, 0);
         x.ticks(2);
-        Check.due("disturbed ticks", x.ofHouse(0, 2), 2);
+        houseDue("disturbed ticks", x, 0, 2, 2);
         x.ticks(1);
-        Check.due("dim light disturbs nobody", x.ofHouse(0, 1), 0);
-        Check.due("disturbed ticks", x.ofHouse(0, 2), 2);
-        Check.due("too far", x.ofHouse(1, 2), 0);
+        houseDue("dim light disturbs nobody", x, 0, 1, 0);
+        houseDue("disturbed ticks", x, 0, 2, 2);
+        houseDue("too far", x, 1, 2, 0);
     }
 
     private static void promise13LightAt() {
@@ -1392,34 +1333,5 @@ public final class PromiseTest {
         x.undo();
         x.undo();
         same("the history stays", before, look(x));
-    }
-
-    /** All that the object tells of its state, but not of pad and history. */
-    private static int[] look(CoughLamps x) {
-        int lamps = x.count(1);
-        int houses = x.count(2);
-        int walkers = x.count(3);
-        int[] all = new int[17 + 11 * lamps + 3 * houses + 9 * walkers];
-        int n = 0;
-        for (int what = 0; what < 17; what++) {
-            all[n++] = x.count(what);
-        }
-        for (int i = 0; i < 11 * lamps; i++) {
-            all[n++] = x.ofLamp(i / 11, i % 11);
-        }
-        for (int i = 0; i < 3 * houses; i++) {
-            all[n++] = x.ofHouse(i / 3, i % 3);
-        }
-        for (int i = 0; i < 9 * walkers; i++) {
-            all[n++] = x.ofWalker(i / 9, i % 9);
-        }
-        return all;
-    }
-
-    private static void same(String when, int[] want, int[] got) {
-        Check.due(when + ": numbers to look at", got.length, want.length);
-        for (int i = 0; i < Math.min(want.length, got.length); i++) {
-            Check.due(when + ": number " + i, got[i], want[i]);
-        }
     }
 }
