@@ -31,6 +31,13 @@ abstract class Sentences extends Streets {
         same = street.get();
         due(call + ", then undo()", undone.undo(), same.undo());
         sameInAll(call + ", then undo()", same, undone);
+        CoughLamps first = street.get();
+        due(call, made.applyAsInt(first), error);
+        same = street.get();
+        for (int i = 0; i < 7; i++) {
+            due(call + ", then undo() to the oldest state", first.undo(), same.undo());
+        }
+        sameInAll(call + ", then undo() to the oldest state", same, first);
         CoughLamps restored = street.get();
         due(call, made.applyAsInt(restored), error);
         same = street.get();

@@ -342,25 +342,44 @@ final class SentencesOfHistory extends Sentences {
             CoughLamps y = new CoughLamps();
             y.save(0);
             y.lamp(10, 5);
+            y.lamp(20, 5);
             y.house(10);
-            y.walker(10, 1);
-            y.goal(0, 12, 0);
+            y.walker(30, 1);
+            y.goal(0, 31, 1);
             y.cough(0);
+            y.cough(1);
             y.ticks(1);
+            y.walker(1, 1);
+            y.goal(1, 1, 9);
+            y.ticks(1);
+            y.mend(0, CoughLamps.BROKEN);
+            lampDue("the other one is LIT", y, 1, 2, CoughLamps.LIT);
+            walkerDue("the other one rests", y, 1, 5, 0);
+            lampDue("it is BROKEN", y, 0, 3, CoughLamps.BROKEN);
+            Check.holds("it has used light", y.ofLamp(0, 7) > 0);
+            Check.holds("it has coughed", y.ofLamp(0, 8) > 0);
+            Check.holds("it has heard", y.ofLamp(0, 9) > 0);
+            Check.holds("it was to blame", y.ofLamp(0, 10) > 0);
+            walkerDue("is home", y, 0, 2, 1);
+            Check.holds("was in the dark", y.ofWalker(0, 6) > 0);
+            Check.holds("has walked", y.ofWalker(0, 8) > 0);
+            houseDue("was disturbed", y, 0, 2, 2);
             y.restore(0);
             for (int what = 0; what <= 10; what++) {
                 countDue("a smaller street", y, what, 0);
             }
-            y.lamp(10, 5);
             y.house(10);
-            y.walker(40, 1);
-            int[] lamp = {10, 5, 0, 0, 0, NONE, NONE, 0, 0, 0, 0};
-            int[] walker = {40, 1, 0, NONE, 0, NONE, 0, 0, 0};
-            for (int what = 0; what < lamp.length; what++) {
-                lampDue("nothing is left of the one that was", y, 0, what, lamp[what]);
-            }
-            for (int what = 0; what < walker.length; what++) {
-                walkerDue("nothing is left of the one who was", y, 0, what, walker[what]);
+            int[] lamp = {70, 5, 0, 0, 0, NONE, NONE, 0, 0, 0, 0};
+            int[] walker = {70, 1, 0, NONE, 0, NONE, 0, 0, 0};
+            for (int i = 0; i < 2; i++) {
+                y.lamp(70 + i, 5);
+                y.walker(70 + i, 1);
+                for (int what = 0; what < lamp.length; what++) {
+                    lampDue("nothing is left of the one that was", y, i, what, what == 0 ? 70 + i : lamp[what]);
+                }
+                for (int what = 0; what < walker.length; what++) {
+                    walkerDue("nothing is left of the one who was", y, i, what, what == 0 ? 70 + i : walker[what]);
+                }
             }
             houseDue("nothing is left of the one that was", y, 0, 2, 0);
             due("the slot keeps it", y.restore(0), 0);

@@ -618,6 +618,7 @@ final class SentencesOfSettingUp extends Sentences {
                 walkerDue("in their order", x, 0, 0, step);
             }
             walkerDue("home", x, 0, 2, 1);
+            sixGoals();
         });
         holds(6, IS_A_CHANGE, () -> {
             isChange("goal(0, 50, 1)", Sentences::busyStreet, x -> x.goal(0, 50, 1));
@@ -669,6 +670,26 @@ final class SentencesOfSettingUp extends Sentences {
             }
             due("the eighth in a full street", fullStreet().goal(8, 0, 0), NO_SUCH);
         });
+    }
+
+    /** Each of six goals keeps its own step and pause, while those ahead of it are done and others come behind it. */
+    private static void sixGoals() {
+        CoughLamps x = new CoughLamps();
+        x.walker(50, 4);
+        for (int goal = 1; goal <= 6; goal++) {
+            x.goal(0, 50 + goal, goal);
+        }
+        for (int goal = 1; goal <= 12; goal++) {
+            walkerDue("goal " + goal, x, 0, 3, 50 + goal);
+            x.ticks(goal);
+            walkerDue("rests at goal " + goal, x, 0, 5, goal - 1);
+            x.ticks(1);
+            walkerDue("goal " + goal + " is done", x, 0, 4, goal <= 6 ? 5 : 12 - goal);
+            if (goal <= 6) {
+                due("one more", x.goal(0, 56 + goal, 6 + goal), 6);
+            }
+        }
+        walkerDue("home", x, 0, 2, 1);
     }
 
     private static void goalsAtTheirBound() {

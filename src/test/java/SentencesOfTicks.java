@@ -655,6 +655,10 @@ final class SentencesOfTicks extends Sentences {
             x.ticks(2);
             countDue("without a lamp", x, 8, 4);
             walkerDue("without a lamp", x, 1, 6, 2);
+            x.lamp(99, 1);
+            lampDue("what was dark ahead of the first lamp", x, 0, 10, 0);
+            x.ticks(3);
+            lampDue("the only lamp, 99 steps away", x, 0, 10, 6);
         });
         holds(9, "Each sleeper who is disturbed has a disturbed tick.", () -> {
             CoughLamps x = new CoughLamps();
