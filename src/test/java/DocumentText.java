@@ -6,11 +6,24 @@ import java.util.List;
 import java.util.regex.Matcher;
 import java.util.regex.Pattern;
 
-/** The document's terms and promises, and which of their words a test has quoted. */
+/** The document's words, and which of them a test has quoted: all but the face, which FaceTest compares. */
 final class DocumentText {
+    private static final Path DOCUMENT = Path.of("..", "shared", "DOC.md");
     private static final int PROMISES = 26;
-    // These name no boundary, or are headings without a mark.
+    private static final String[] OUTSIDE_THE_PROMISES = {"What it is", "Terms", "Not promised"};
+    // These name no boundary, leave something free, or are headings without a mark.
     private static final String[] WITHOUT_A_TEST = {
+        "Lamps along a street at night that wake one another by coughs of light, for walkers who should not be in the dark: "
+            + "lamps with eyes that see walkers, coughs that reach the lamps that are near enough, lamps that wait and cough "
+            + "in their turn, lamps that are lit, then dim, then asleep, lamps that are blind or broken, sleepers in houses "
+            + "who are disturbed, walkers with goals and pauses, light that is used and counted, dark ticks and the lamps to "
+            + "blame for them, forecasts, the best reach of a cough, lamps that are not needed, orders that are read from "
+            + "texts, undo, and saved states.",
+        "what later calls answer is free.",
+        "How the state is held inside the object is free, as are the speed of each call, the text of toString and the "
+            + "behaviour of equals and hashCode. Use of one object from several threads at once is not promised to be safe. "
+            + "Nothing is promised beyond the answers and state changes described above, and nothing about an object after "
+            + "its 512th call.",
         "Street, lamps, houses",
         "Ahead of the calls `set`, `lamp`, `house`, `walker`, `goal`, `mend`, `cough`, `ticks` the interface says: ---- setting up.",
         "Ahead of the calls `ofLamp`, `ofWalker`, `ofHouse`, `lightAt`, `hearers`, `count` the interface says: ---- what there is.",
@@ -27,27 +40,48 @@ final class DocumentText {
         QUOTED.add(words);
     }
 
-    /** Each quote stands in the terms or in its promise, and no sentence of them is left without a test. */
-    static void compare(Path document) throws Exception {
-        String text = Files.readString(document, StandardCharsets.UTF_8).replace("\r", "");
+    /** The lines of Java that the document shows as its public face. */
+    static String face() throws Exception {
+        String text = read();
+        int from = text.indexOf("\n```java\n");
+        int to = from < 0 ? -1 : text.indexOf("\n```\n", from + 1);
+        Check.holds("the document shows the public face", to >= 0);
+        return to < 0 ? "" : text.substring(from, to);
+    }
+
+    private static String read() throws Exception {
+        return Files.readString(DOCUMENT, StandardCharsets.UTF_8).replace("\r", "");
+    }
+
+    /** Each quote stands in its promise or outside the promises, and no sentence is left without a test. */
+    static void compare() throws Exception {
+        String text = read();
         String[] parts = new String[PROMISES + 1];
         boolean[][] tested = new boolean[PROMISES + 1][];
         for (int i = 0; i <= PROMISES; i++) {
-            parts[i] = i == 0 ? part(text, "\n## Terms\n", false) : part(text, "\n## Promise " + i + ": ", true);
+            parts[i] = i == 0 ? outsideThePromises(text) : part(text, "\n## Promise " + i + ": ", true);
             tested[i] = new boolean[parts[i].length()];
         }
         for (int i = 0; i < QUOTED.size(); i++) {
             int promise = PROMISES_QUOTED.get(i);
             boolean found = mark(parts[promise], tested[promise], QUOTED.get(i));
             found |= mark(parts[0], tested[0], QUOTED.get(i));
-            Check.holds("promise " + promise + " or the terms say: " + QUOTED.get(i), found);
+            Check.holds("promise " + promise + " or what stands outside the promises says: " + QUOTED.get(i), found);
         }
         for (String words : WITHOUT_A_TEST) {
-            Check.holds("the terms say: " + words, mark(parts[0], tested[0], words));
+            Check.holds("the document says: " + words, mark(parts[0], tested[0], words));
         }
         for (int i = 0; i <= PROMISES; i++) {
-            allTested(i == 0 ? "the terms" : "promise " + i, parts[i], tested[i]);
+            allTested(i == 0 ? "what stands outside the promises" : "promise " + i, parts[i], tested[i]);
         }
+    }
+
+    private static String outsideThePromises(String text) {
+        StringBuilder all = new StringBuilder();
+        for (String heading : OUTSIDE_THE_PROMISES) {
+            all.append(part(text, "\n## " + heading + "\n", false));
+        }
+        return all.toString();
     }
 
     /** The text under a heading, without headings, signatures and list marks. */

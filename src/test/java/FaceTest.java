@@ -2,70 +2,71 @@ import java.lang.reflect.Constructor;
 import java.lang.reflect.Field;
 import java.lang.reflect.Method;
 import java.lang.reflect.Modifier;
-import java.nio.file.Files;
-import java.nio.file.Path;
 import java.util.Arrays;
-import java.util.HashSet;
 import java.util.Set;
 import java.util.TreeSet;
 import java.util.regex.Matcher;
 import java.util.regex.Pattern;
 
-/** The class shows the document's face and nothing else, and keeps to the language's rules as far as words tell. */
+/** The class shows the document's face, and nothing else. */
 public final class FaceTest {
-    private static final String[] METHODS = {
-        "int set(int, int)", "int lamp(int, int)", "int house(int)", "int walker(int, int)", "int goal(int, int, int)",
-        "int mend(int, int)", "int cough(int)", "int ticks(int)", "int ofLamp(int, int)", "int ofWalker(int, int)",
-        "int ofHouse(int, int)", "int lightAt(int)", "int hearers(int)", "int count(int)", "int homeIn(int)",
-        "int brings(int, int)", "int bestReach(int)", "int needless()", "int put(long)", "int wipe()", "int fault()",
-        "int carryOut()", "int undo()", "int save(int)", "int restore(int)"};
-    private static final String[] CONSTANTS = {
-        "NO_SUCH=-1", "BAD_VALUE=-2", "BAD_TEXT=-3", "TOO_MANY=-4", "NOT_POSSIBLE=-5", "NONE=-6",
-        "EYES=0", "REACH=1", "AWAKE=2", "DIM=3", "WAIT=4", "CHAIN=5",
-        "ASLEEP=0", "DIM_LIT=1", "LIT=2", "WELL=0", "BLIND=1", "BROKEN=2"};
-    private static final String[] WORDS_RULED_OUT = {
-        "throw", "throws", "try", "catch", "finally", "synchronized", "assert", "import", "package", "volatile",
-        "System\\.out", "System\\.err", "equals", "hashCode", "toString", "->", "::", "protected", "float", "double",
-        "Exact", "while \\(true\\)", "for \\(;;\\)"};
+    private static final Pattern CONSTANTS = Pattern.compile("public static final int ([^;]*);");
+    private static final Pattern METHOD = Pattern.compile("public (int \\w+\\([^)]*\\));");
+    private static final int MOST_CONSTANTS = 18;
+    private static final int MOST_METHODS = 25;
 
     public static void main(String[] args) throws Exception {
-        face();
-        classesInside(CoughLamps.class);
-        if (args.length > 0) {
-            words(Files.readString(Path.of(args[0])));
-        }
+        String face = DocumentText.face();
+        constants(face);
+        methods(face);
+        constructor(face);
         Check.finish();
     }
 
-    private static void face() throws Exception {
-        Class<?> face = CoughLamps.class;
-        Check.holds("public and final", face.getModifiers() == (Modifier.PUBLIC | Modifier.FINAL));
-        Check.holds("without a package", face.getPackageName().isEmpty());
-        Set<String> methods = new TreeSet<>();
-        Set<String> publicNames = new HashSet<>();
-        Set<String> privateNames = new HashSet<>();
-        for (Method method : face.getDeclaredMethods()) {
-            if (Modifier.isPrivate(method.getModifiers()) || method.isSynthetic()) {
-                privateNames.add(method.getName());
-                continue;
-            }
-            publicNames.add(method.getName());
-            Check.holds(method + " is public alone", method.getModifiers() == Modifier.PUBLIC);
-            methods.add(method.getReturnType() + " " + method.getName() + typesOf(method.getParameterTypes()));
+    private static void constants(String face) throws Exception {
+        Set<String> due = new TreeSet<>();
+        Matcher found = CONSTANTS.matcher(face);
+        while (found.find()) {
+            due.addAll(Arrays.asList(found.group(1).split(", ")));
         }
-        Check.holds("methods " + methods, methods.equals(new TreeSet<>(Arrays.asList(METHODS))));
-        privateNames.retainAll(publicNames);
-        Check.holds("private methods with public names " + privateNames, privateNames.isEmpty());
-        Set<String> constants = new TreeSet<>();
-        for (Field field : face.getDeclaredFields()) {
-            if (!Modifier.isPrivate(field.getModifiers()) && !field.isSynthetic()) {
-                constants.add(field.getName() + "=" + field.getInt(null));
+        Check.due("constants of the document", due.size(), MOST_CONSTANTS);
+        Set<String> shown = new TreeSet<>();
+        for (Field field : CoughLamps.class.getDeclaredFields()) {
+            if (!Modifier.isPrivate(field.getModifiers())) {
                 Check.holds(field + " is a constant",
                         field.getModifiers() == (Modifier.PUBLIC | Modifier.STATIC | Modifier.FINAL));
+                Check.holds(field + " is an int", field.getType() == int.class);
+                shown.add(field.getName() + " = " + field.getInt(null));
             }
         }
-        Check.holds("constants " + constants, constants.equals(new TreeSet<>(Arrays.asList(CONSTANTS))));
-        Constructor<?>[] made = face.getDeclaredConstructors();
+        same("constants", due, shown);
+    }
+
+    private static void methods(String face) {
+        Set<String> due = new TreeSet<>();
+        Matcher found = METHOD.matcher(face);
+        while (found.find()) {
+            due.add(found.group(1).replaceAll("(int|long) \\w+(?=[,)])", "$1"));
+        }
+        Check.due("methods of the document", due.size(), MOST_METHODS);
+        Set<String> shown = new TreeSet<>();
+        for (Method method : CoughLamps.class.getDeclaredMethods()) {
+            if (!Modifier.isPrivate(method.getModifiers())) {
+                Check.holds(method + " is public alone", method.getModifiers() == Modifier.PUBLIC);
+                shown.add(method.getReturnType() + " " + method.getName() + typesOf(method.getParameterTypes()));
+            }
+        }
+        same("methods", due, shown);
+    }
+
+    private static void constructor(String face) {
+        Check.holds("the document has a constructor without parameters", face.contains("public CoughLamps();"));
+        Check.holds("the document's class is public and final", face.contains("public final class CoughLamps {"));
+        Class<?> shown = CoughLamps.class;
+        Check.holds("public and final", shown.getModifiers() == (Modifier.PUBLIC | Modifier.FINAL));
+        Check.holds("without a package", shown.getPackageName().isEmpty());
+        Check.holds("of no other class", shown.getSuperclass() == Object.class && shown.getInterfaces().length == 0);
+        Constructor<?>[] made = shown.getDeclaredConstructors();
         Check.holds("one constructor, public, without parameters",
                 made.length == 1 && Modifier.isPublic(made[0].getModifiers()) && made[0].getParameterCount() == 0);
     }
@@ -78,25 +79,12 @@ public final class FaceTest {
         return text.append(")").toString();
     }
 
-    private static void classesInside(Class<?> outer) {
-        Check.holds("some twelve classes", outer.getDeclaredClasses().length <= 11);
-        for (Class<?> inner : outer.getDeclaredClasses()) {
-            Check.holds(inner + " is static", Modifier.isStatic(inner.getModifiers()));
-            Check.holds(inner + " is not shown", !Modifier.isPublic(inner.getModifiers()));
-            int fields = 0;
-            for (Field field : inner.getDeclaredFields()) {
-                fields += Modifier.isStatic(field.getModifiers()) ? 0 : 1;
-            }
-            Check.holds(inner + " has some twenty fields", fields <= 20);
-        }
-    }
-
-    private static void words(String program) {
-        String code = program.replaceAll("(?s)/\\*.*?\\*/", " ").replaceAll("//[^\n]*", " ");
-        for (String word : WORDS_RULED_OUT) {
-            boolean plain = Character.isLetter(word.charAt(0)) && Character.isLetter(word.charAt(word.length() - 1));
-            Matcher found = Pattern.compile(plain ? "\\b" + word + "\\b" : word).matcher(code);
-            Check.holds("the class has no " + word, !found.find());
-        }
+    private static void same(String what, Set<String> due, Set<String> shown) {
+        Set<String> missing = new TreeSet<>(due);
+        missing.removeAll(shown);
+        Check.holds("no " + what + " are missing: " + missing, missing.isEmpty());
+        Set<String> more = new TreeSet<>(shown);
+        more.removeAll(due);
+        Check.holds("no " + what + " are more than the document's: " + more, more.isEmpty());
     }
 }
